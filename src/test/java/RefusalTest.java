@@ -223,5 +223,12 @@ public final class RefusalTest {
             x.remembers(0, i);
         }
         due("long use: a list of messages still", x.messages() <= 40, true);
+        CellTree y = new CellTree();
+        for (int i = 0; i < 600; i++) {
+            y.put(i % 2, 50, i);
+            Drive.quiet(y);
+            y.remembers(0, i);
+        }
+        due("long use: work ends", y.work(0) != 1, true);
     }
 }

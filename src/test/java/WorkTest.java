@@ -18,6 +18,7 @@ public final class WorkTest {
         getPassesAFullNode();
         putSplitsAFullNodeFirst();
         oldCopyLeadsToAnotherLeaf();
+        highIsBesideTheLeaf();
         readOfAnInnerNodeBesideTheKey();
         heldCopyIsNotLookedAt();
         fuelRunsOut();
@@ -309,6 +310,16 @@ public final class WorkTest {
         x.put(0, 60, 1);
         Drive.quiet(x);
         due("put: no split of a node with one separator", x.cell(0, 3), 1);
+        CellTree y = fullRoot();
+        y.get(1, 5);
+        Drive.quiet(y);
+        y.put(1, 25, 26);
+        due("put through a full copy: split at once", y.about(1, 4), 11);
+        due("put through a full copy: PREPARE", y.messages(), 2);
+        Drive.quiet(y);
+        due("put through a full copy: found", y.about(1, 0), 25);
+        dueKeys(y, 0, 15);
+        dueItems(y, 0, 9, 10);
     }
 
     private static void oldCopyLeadsToAnotherLeaf() {
@@ -330,6 +341,31 @@ public final class WorkTest {
         due("old copy: fuel stays at the end", x.about(1, 1), 9);
         x.get(1, 50);
         due("new work has new fuel", x.about(1, 1), 10);
+    }
+
+    private static void highIsBesideTheLeaf() {
+        CellTree x = Drive.fullLeaf();
+        Drive.put(x, 0, 40, 40);
+        x.get(1, 20);
+        Drive.quiet(x);
+        Drive.put(x, 0, 50, 50);
+        due("HIGH of the leaf", x.cell(2, 5), 30);
+        x.get(1, 30);
+        Drive.quiet(x);
+        due("key HIGH: wrong once", x.about(1, 1), 9);
+        due("key HIGH: found", x.about(1, 0), 30);
+        CellTree y = Drive.fullLeaf();
+        Drive.put(y, 0, 40, 40);
+        y.get(1, 20);
+        Drive.quiet(y);
+        Drive.put(y, 0, 50, 50);
+        y.get(1, 29);
+        Drive.quiet(y);
+        due("key HIGH - 1: not wrong", y.about(1, 1), 10);
+        y.get(1, 20);
+        Drive.quiet(y);
+        due("key LOW: not wrong", y.about(1, 1), 10);
+        due("key LOW: found", y.about(1, 0), 20);
     }
 
     /** Client 1 has the root of before the split of cell 6; a read of 6 for a key that 9 has now goes wrong. */
@@ -543,6 +579,16 @@ public final class WorkTest {
         due("anew: found", x.work(0), 3);
         due("anew: sum", x.about(0, 0), 31);
         due("anew: leaves", x.about(0, 2), 2);
+        x.scan(0, 15, 25);
+        Drive.steps(x, 4);
+        due("anew to nothing: two leaves", x.about(0, 2), 2);
+        x.remove(1, 20);
+        for (int i = 0; i < 40 && x.work(1) == 1; i++) {
+            x.deliver(x.messages() - 1);
+        }
+        Drive.quiet(x);
+        due("anew to nothing: fuel", x.about(0, 1), 9);
+        due("anew to nothing: not found", x.work(0), 2);
     }
 
     private static void workStaysUntilNewWork() {
