@@ -484,7 +484,8 @@ public final class CellTree {
         }
 
         Content leftHalf() {
-            return new Content(kind, low, middle(), Arrays.copyOfRange(keys, 0, 1), Arrays.copyOfRange(items, 0, cut()));
+            int[] leftKeys = Arrays.copyOfRange(keys, 0, 1);
+            return new Content(kind, low, middle(), leftKeys, Arrays.copyOfRange(items, 0, cut()));
         }
 
         Content rightHalf() {

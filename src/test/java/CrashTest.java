@@ -29,14 +29,6 @@ public final class CrashTest {
         CHECK.due(what, got, want);
     }
 
-    /** Client 1 splits the root: transaction 8, with items at 9, 10 and 0; both PREPAREs are under way. */
-    private static CellTree splitOverTwo() {
-        CellTree x = Drive.fullLeaf();
-        x.put(1, 40, 40);
-        Drive.steps(x, 2);
-        return x;
-    }
-
     private static void memoryDownLosesAndKeeps() {
         CellTree x = Drive.fullLeaf();
         due("crash 0", x.crash(0), true);
@@ -59,7 +51,7 @@ public final class CrashTest {
     }
 
     private static void memoryDownLosesVerdicts() {
-        CellTree x = splitOverTwo();
+        CellTree x = Drive.splitOverTwo();
         Drive.steps(x, 4);
         x.crash(1);
         due("verdict: COMMIT to 1", Drive.deliver(x, 40081), true);
@@ -125,7 +117,7 @@ public final class CrashTest {
     }
 
     private static void recoverCommitsWhatAllDoubt() {
-        CellTree x = splitOverTwo();
+        CellTree x = Drive.splitOverTwo();
         Drive.steps(x, 2);
         due("all in doubt: nothing lost by asking", x.recover(2), CellTree.NONE);
         due("all in doubt: recover", x.recover(1), 8);
@@ -141,7 +133,7 @@ public final class CrashTest {
     }
 
     private static void recoverAbortsWhatOneDoesNotKnow() {
-        CellTree x = splitOverTwo();
+        CellTree x = Drive.splitOverTwo();
         x.deliver(0);
         due("one in doubt: recover elsewhere", x.recover(1), CellTree.NONE);
         due("one in doubt: recover", x.recover(0), 8);
@@ -155,7 +147,7 @@ public final class CrashTest {
     }
 
     private static void recoverCommitsWhatOneCommitted() {
-        CellTree x = splitOverTwo();
+        CellTree x = Drive.splitOverTwo();
         Drive.steps(x, 5);
         due("one committed: at 0", x.remembers(0, 8), 2);
         due("one committed: in doubt at 1", x.remembers(1, 8), 1);
@@ -168,7 +160,7 @@ public final class CrashTest {
     }
 
     private static void recoverAbortsWhatOneAborted() {
-        CellTree x = splitOverTwo();
+        CellTree x = Drive.splitOverTwo();
         x.put(0, 10, 11);
         for (int i = 0; i < 20 && x.work(0) == 1; i++) {
             x.deliver(2);
@@ -184,7 +176,7 @@ public final class CrashTest {
     }
 
     private static void recoverNeedsAllUp() {
-        CellTree x = splitOverTwo();
+        CellTree x = Drive.splitOverTwo();
         Drive.steps(x, 2);
         x.crash(0);
         due("participant down: recover", x.recover(1), CellTree.NONE);
@@ -223,7 +215,7 @@ public final class CrashTest {
     }
 
     private static void clientGoesOnAfterRecover() {
-        CellTree x = splitOverTwo();
+        CellTree x = Drive.splitOverTwo();
         Drive.steps(x, 2);
         Drive.dropAll(x);
         x.recover(0);

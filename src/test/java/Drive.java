@@ -57,6 +57,14 @@ final class Drive {
         return x;
     }
 
+    /** Client 1 splits the root: transaction 8, with items at 9, 10 and 0; both its PREPAREs are under way. */
+    static CellTree splitOverTwo() {
+        CellTree x = fullLeaf();
+        x.put(1, 40, 40);
+        steps(x, 2);
+        return x;
+    }
+
     /** Where the root is a full leaf without key 99: moves the hint of client c by 2, and changes no cell. */
     static void moveHint(CellTree x, int c) {
         x.put(c, 99, 0);

@@ -147,16 +147,8 @@ public final class MessageTest {
         due("no fit: both entries", x.cell(0, 3), 2);
     }
 
-    /** Client 1 splits the root: transaction 8, with items at 9, 10 and 0. */
-    private static CellTree splitOverTwo() {
-        CellTree x = Drive.fullLeaf();
-        x.put(1, 40, 40);
-        Drive.steps(x, 2);
-        return x;
-    }
-
     private static void commitAtTwoNodes() {
-        CellTree x = splitOverTwo();
+        CellTree x = Drive.splitOverTwo();
         dueMessages("two: prepare", x, 10080, 10081);
         due("two: nothing remembered", x.remembers(0, 8), 0);
         x.deliver(1);
@@ -236,7 +228,7 @@ public final class MessageTest {
     }
 
     private static void abortBeforePrepare() {
-        CellTree x = splitOverTwo();
+        CellTree x = Drive.splitOverTwo();
         x.put(0, 10, 11);
         for (int i = 0; i < 20 && x.work(0) == 1; i++) {
             x.deliver(2);
@@ -253,7 +245,7 @@ public final class MessageTest {
     }
 
     private static void answersTwiceCountOnce() {
-        CellTree x = splitOverTwo();
+        CellTree x = Drive.splitOverTwo();
         x.resend(1);
         dueMessages("twice: prepare", x, 10080, 10081, 10080, 10081);
         x.deliver(0);
@@ -289,7 +281,7 @@ public final class MessageTest {
 
     /** Node 0 says YES, is aborted by a recovery, and says NO to a second PREPARE, while node 1 is silent. */
     private static void noAfterYes() {
-        CellTree x = splitOverTwo();
+        CellTree x = Drive.splitOverTwo();
         x.resend(1);
         Drive.deliver(x, 10080);
         Drive.deliver(x, 20080);
@@ -303,7 +295,7 @@ public final class MessageTest {
     }
 
     private static void dropTakesOneOut() {
-        CellTree x = splitOverTwo();
+        CellTree x = Drive.splitOverTwo();
         x.get(0, 1);
         dueMessages("drop", x, 10080, 10081, 10090);
         due("drop the second", x.drop(1), true);
@@ -315,7 +307,7 @@ public final class MessageTest {
     }
 
     private static void deliverTakesAnyOut() {
-        CellTree x = splitOverTwo();
+        CellTree x = Drive.splitOverTwo();
         x.get(0, 1);
         due("deliver the last", x.deliver(2), true);
         dueMessages("deliver: its answer comes behind", x, 10080, 10081, 20090);
@@ -325,7 +317,7 @@ public final class MessageTest {
     }
 
     private static void atMostForty() {
-        CellTree x = splitOverTwo();
+        CellTree x = Drive.splitOverTwo();
         for (int i = 0; i < 18; i++) {
             due("forty: resend", x.resend(1), 2);
         }
@@ -353,7 +345,7 @@ public final class MessageTest {
     }
 
     private static void resendToTheSilent() {
-        CellTree x = splitOverTwo();
+        CellTree x = Drive.splitOverTwo();
         due("resend: both", x.resend(1), 2);
         Drive.dropAll(x);
         x.resend(1);
