@@ -1,11 +1,10 @@
 import java.util.Random;
 
 /** Long runs of chosen calls, each answer compared with the model's: promises 1 to 20 together. */
-public final class ModelTest {
+public final class ModelTest extends Cases {
     private static final int CALLS = 512;
     private static final int RUNS = 4000;
 
-    private final Check check;
     private final int run;
     private final Random random;
     private final CellTree x = new CellTree();
@@ -14,8 +13,7 @@ public final class ModelTest {
     private final int calm;
     private final int keys;
 
-    private ModelTest(Check check, int run) {
-        this.check = check;
+    private ModelTest(int run) {
         this.run = run;
         this.random = new Random(run);
         this.calm = new int[] {2, 5, 20, 100, 100000}[run % 5];
@@ -23,22 +21,21 @@ public final class ModelTest {
     }
 
     public static void main(String[] args) {
-        Check check = new Check("ModelTest");
         for (int run = 0; run < RUNS; run++) {
-            ModelTest test = new ModelTest(check, run);
+            ModelTest test = new ModelTest(run);
             for (int i = 0; i < CALLS; i++) {
                 test.call();
             }
         }
-        check.end();
+        end();
     }
 
-    private void due(String call, int got, int want) {
-        check.due("run " + run + ", " + call, got, want);
+    private void same(String call, int got, int want) {
+        due("run " + run + ", " + call, got, want);
     }
 
-    private void due(String call, boolean got, int want) {
-        due(call, got ? 1 : 0, want);
+    private void same(String call, boolean got, int want) {
+        same(call, got ? 1 : 0, want);
     }
 
     private int pick(int below) {
@@ -64,21 +61,21 @@ public final class ModelTest {
         int v = pick(20) == 0 ? random.nextInt() : pick(50);
         int kind = pick(10);
         if (kind < 6) {
-            due("put(" + c + ", " + k + ", " + v + ")", x.put(c, k, v), y.start(c, "PUT", k, k, v));
+            same("put(" + c + ", " + k + ", " + v + ")", x.put(c, k, v), y.start(c, "PUT", k, k, v));
         } else if (kind < 7) {
-            due("get(" + c + ", " + k + ")", x.get(c, k), y.start(c, "GET", k, k, 0));
+            same("get(" + c + ", " + k + ")", x.get(c, k), y.start(c, "GET", k, k, 0));
         } else if (kind < 8) {
-            due("remove(" + c + ", " + k + ")", x.remove(c, k), y.start(c, "REMOVE", k, k, 0));
+            same("remove(" + c + ", " + k + ")", x.remove(c, k), y.start(c, "REMOVE", k, k, 0));
         } else {
             int b = k + pick(40) - 2;
-            due("scan(" + c + ", " + k + ", " + b + ")", x.scan(c, k, b), y.start(c, "SCAN", k, b, 0));
+            same("scan(" + c + ", " + k + ", " + b + ")", x.scan(c, k, b), y.start(c, "SCAN", k, b, 0));
         }
     }
 
     private void move() {
         int count = y.posts.size();
         int i = pick(calm) == 0 && count > 0 ? pick(count + 1) : 0;
-        due("deliver(" + i + ")", x.deliver(i), y.deliver(i));
+        same("deliver(" + i + ")", x.deliver(i), y.deliver(i));
     }
 
     private void disturb() {
@@ -86,17 +83,17 @@ public final class ModelTest {
         int kind = pick(12);
         if (kind < 3) {
             int i = pick(Math.max(1, y.posts.size()) + 1) - 1;
-            due("drop(" + i + ")", x.drop(i), y.drop(i));
+            same("drop(" + i + ")", x.drop(i), y.drop(i));
         } else if (kind < 6) {
             int c = pick(4) - 1;
-            due("resend(" + c + ")", x.resend(c), y.resend(c));
+            same("resend(" + c + ")", x.resend(c), y.resend(c));
         } else if (kind < 7) {
-            due("crash(" + place + ")", x.crash(place), y.crash(place));
+            same("crash(" + place + ")", x.crash(place), y.crash(place));
         } else if (kind < 9) {
-            due("restart(" + place + ")", x.restart(place), y.restart(place));
+            same("restart(" + place + ")", x.restart(place), y.restart(place));
         } else {
             int m = pick(5) - 1;
-            due("recover(" + m + ")", x.recover(m), y.recover(m));
+            same("recover(" + m + ")", x.recover(m), y.recover(m));
         }
     }
 
@@ -105,21 +102,21 @@ public final class ModelTest {
         int address = pick(26) - 1;
         int small = pick(8) - 1;
         switch (pick(9)) {
-            case 0 -> due("messages()", x.messages(), y.posts.size());
+            case 0 -> same("messages()", x.messages(), y.posts.size());
             case 1 -> {
                 int i = pick(y.posts.size() + 2) - 1;
-                due("message(" + i + ")", x.message(i), y.message(i));
+                same("message(" + i + ")", x.message(i), y.message(i));
             }
-            case 2 -> due("work(" + c + ")", x.work(c), y.work(c));
-            case 3 -> due("about(" + c + ", " + small + ")", x.about(c, small), y.about(c, small));
-            case 4 -> due("copy(" + c + ", " + address + ")", x.copy(c, address), y.copy(c, address));
-            case 5 -> due("cell(" + address + ", " + small + ")", x.cell(address, small), y.cell(address, small));
-            case 6 -> due("key(" + address + ", " + small + ")", x.key(address, small), y.key(address, small));
-            case 7 -> due("item(" + address + ", " + small + ")", x.item(address, small), y.item(address, small));
+            case 2 -> same("work(" + c + ")", x.work(c), y.work(c));
+            case 3 -> same("about(" + c + ", " + small + ")", x.about(c, small), y.about(c, small));
+            case 4 -> same("copy(" + c + ", " + address + ")", x.copy(c, address), y.copy(c, address));
+            case 5 -> same("cell(" + address + ", " + small + ")", x.cell(address, small), y.cell(address, small));
+            case 6 -> same("key(" + address + ", " + small + ")", x.key(address, small), y.key(address, small));
+            case 7 -> same("item(" + address + ", " + small + ")", x.item(address, small), y.item(address, small));
             default -> {
                 int m = pick(5) - 1;
                 int t = pick(y.deals.size() + 3) - 1;
-                due("remembers(" + m + ", " + t + ")", x.remembers(m, t), y.remembers(m, t));
+                same("remembers(" + m + ", " + t + ")", x.remembers(m, t), y.remembers(m, t));
             }
         }
     }

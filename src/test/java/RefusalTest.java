@@ -1,219 +1,316 @@
-/** Wrong arguments and calls at the wrong time: each is refused as the document says, and changes nothing. */
-public final class RefusalTest {
-    private static final Check CHECK = new Check("RefusalTest");
+import java.util.function.Predicate;
+import java.util.function.Supplier;
+import java.util.function.ToIntFunction;
+
+/**
+ * "A call that is refused changes nothing.": each call of each promise, for each reason to refuse it, answers as
+ * refused, and leaves an object that can't be told from one without that call, now or later.
+ */
+public final class RefusalTest extends Cases {
     private static final int[] NO_CLIENTS = {-1, 2, 3, Integer.MIN_VALUE, Integer.MAX_VALUE};
     private static final int[] NO_KEYS = {-1, 100, Integer.MIN_VALUE, Integer.MAX_VALUE};
     private static final int[] NO_NODES = {-1, 3, 4, Integer.MIN_VALUE, Integer.MAX_VALUE};
     private static final int[] NO_PLACES = {-1, 5, Integer.MIN_VALUE, Integer.MAX_VALUE};
     private static final int[] NO_ADDRESSES = {-1, 24, Integer.MIN_VALUE, Integer.MAX_VALUE};
-    private static final int[] NO_INDEXES = {-1, 4, 40, Integer.MIN_VALUE, Integer.MAX_VALUE};
+    private static final int[] NO_INDEXES = {-1, 40, Integer.MIN_VALUE, Integer.MAX_VALUE};
 
     private RefusalTest() {
     }
 
     public static void main(String[] args) {
-        due("NONE", CellTree.NONE, -1);
-        noSuchClient();
-        noSuchKey();
-        noSuchRange();
-        runningWork();
+        due("NONE", NONE, -1);
+        workOfNoSuchClient();
+        workOnNoSuchKey();
+        scanFromOrToNoSuchKey();
+        scanOfNoRange();
+        workWhileDown();
+        workWhileWorkRuns();
         noSuchMessage();
-        noSuchPlace();
-        noSuchNode();
-        noSuchQuestion();
-        noSuchAddress();
-        noSuchTransaction();
-        refusedCallsChangeNothing();
-        longUseDoesNotThrow();
-        CHECK.end();
+        messageBehindTheLast();
+        resendOfNoSuchClient();
+        resendWhileDown();
+        resendWithNothingOpen();
+        crashRefused();
+        restartRefused();
+        recoverAtNoSuchNode();
+        recoverWhileDown();
+        recoverWithNothingInDoubt();
+        recoverWithAParticipantDown();
+        questionsAboutClients();
+        questionsAboutCells();
+        questionsAboutMemory();
+        questionsChangeNothing();
+        afterTheLastCallNothingIsThrown();
+        end();
     }
 
-    private static void due(String what, int got, int want) {
-        CHECK.due(what, got, want);
+    private static void refused(String what, Supplier<CellTree> scene, Predicate<CellTree> call) {
+        due(what, call.test(scene.get()), false);
+        dueUnchanged(what, scene, call::test);
     }
 
-    private static void due(String what, boolean got, boolean want) {
-        CHECK.due(what, got, want);
+    private static void none(String what, Supplier<CellTree> scene, ToIntFunction<CellTree> call) {
+        due(what, call.applyAsInt(scene.get()), NONE);
+        dueUnchanged(what, scene, call::applyAsInt);
     }
 
-    private static void noSuchClient() {
-        CellTree x = Drive.fullLeaf();
-        for (int c : NO_CLIENTS) {
-            due("get of client " + c, x.get(c, 1), false);
-            due("put of client " + c, x.put(c, 1, 1), false);
-            due("remove of client " + c, x.remove(c, 1), false);
-            due("scan of client " + c, x.scan(c, 1, 1), false);
-            due("resend of client " + c, x.resend(c), CellTree.NONE);
-            due("work of client " + c, x.work(c), CellTree.NONE);
-            for (int what = 0; what < 5; what++) {
-                due("about client " + c, x.about(c, what), CellTree.NONE);
+    /** A call whose answer does not matter to the one who makes it. */
+    private interface Call {
+        void on(CellTree x);
+    }
+
+    private static void dueUnchanged(String what, Supplier<CellTree> scene, Call call) {
+        Supplier<CellTree> called = () -> {
+            CellTree x = scene.get();
+            call.on(x);
+            return x;
+        };
+        due(what + ": changes nothing", Sight.of(called).equals(Sight.of(scene)), true);
+        due(what + ": changes nothing for later", Sight.of(later(called)).equals(Sight.of(later(scene))), true);
+    }
+
+    /** All come up again and all work goes on to its end, so that what can't be seen at once shows. */
+    private static Supplier<CellTree> later(Supplier<CellTree> scene) {
+        return () -> {
+            CellTree x = scene.get();
+            for (int place = 0; place < 5; place++) {
+                x.restart(place);
             }
-            due("copy of client " + c, x.copy(c, 0), CellTree.NONE);
-        }
-        due("no client: nothing sent", x.messages(), 0);
+            x.resend(0);
+            x.resend(1);
+            Drive.quiet(x);
+            return x;
+        };
     }
 
-    private static void noSuchKey() {
-        CellTree x = new CellTree();
+    /** Client 0 has copies and work that is done; client 1's split is in doubt at 0, and not yet at 1. */
+    private static CellTree busy() {
+        CellTree x = Drive.twoLeaves();
+        Drive.get(x, 1, 10);
+        x.put(1, 50, 50);
+        Drive.steps(x, 3);
+        return x;
+    }
+
+    /** As busy, and client 0 has work that runs. */
+    private static CellTree bothBusy() {
+        CellTree x = busy();
+        x.get(0, 10);
+        return x;
+    }
+
+    private static CellTree withDown(int place) {
+        CellTree x = bothBusy();
+        x.crash(place);
+        return x;
+    }
+
+    /** get, put, remove, scan: "False when there is no such client" */
+    private static void workOfNoSuchClient() {
+        for (int c : NO_CLIENTS) {
+            refused("get of client " + c, RefusalTest::busy, x -> x.get(c, 1));
+            refused("put of client " + c, RefusalTest::busy, x -> x.put(c, 1, 1));
+            refused("remove of client " + c, RefusalTest::busy, x -> x.remove(c, 1));
+            refused("scan of client " + c, RefusalTest::busy, x -> x.scan(c, 1, 1));
+        }
+    }
+
+    /** get, put, remove: "no such .. key" */
+    private static void workOnNoSuchKey() {
         for (int k : NO_KEYS) {
-            due("get of key " + k, x.get(0, k), false);
-            due("put of key " + k, x.put(0, k, 1), false);
-            due("remove of key " + k, x.remove(0, k), false);
-            due("scan from key " + k, x.scan(0, k, 99), false);
-            due("scan to key " + k, x.scan(0, 0, k), false);
-            due("scan at key " + k, x.scan(0, k, k), false);
+            refused("get of key " + k, RefusalTest::busy, x -> x.get(0, k));
+            refused("put of key " + k, RefusalTest::busy, x -> x.put(0, k, 1));
+            refused("remove of key " + k, RefusalTest::busy, x -> x.remove(0, k));
         }
-        due("no key: no work", x.work(0), 0);
-        due("no key: nothing sent", x.messages(), 0);
-        due("get of the first key", x.get(0, 0), true);
-        due("get of the last key", x.get(1, 99), true);
     }
 
-    private static void noSuchRange() {
-        CellTree x = new CellTree();
-        due("scan downwards", x.scan(0, 5, 4), false);
-        due("scan from the end", x.scan(0, 99, 0), false);
-        due("scan of one key", x.scan(0, 5, 5), true);
-        due("scan of all keys", x.scan(1, 0, 99), true);
+    /** scan: "when a or b is no key" */
+    private static void scanFromOrToNoSuchKey() {
+        for (int k : NO_KEYS) {
+            refused("scan from key " + k + " to 99", RefusalTest::busy, x -> x.scan(0, k, 99));
+            refused("scan from key 0 to " + k, RefusalTest::busy, x -> x.scan(0, 0, k));
+            refused("scan of key " + k, RefusalTest::busy, x -> x.scan(0, k, k));
+        }
+        refused("scan of more than all keys", RefusalTest::busy, x -> x.scan(0, -1, 100));
     }
 
-    private static void runningWork() {
-        CellTree x = new CellTree();
-        x.get(0, 1);
-        due("get while work runs", x.get(0, 2), false);
-        due("put while work runs", x.put(0, 2, 2), false);
-        due("remove while work runs", x.remove(0, 2), false);
-        due("scan while work runs", x.scan(0, 2, 2), false);
-        due("running: nothing more sent", x.messages(), 1);
-        due("running: nothing more begun", x.remembers(0, 2), CellTree.NONE);
-        x.crash(3);
-        due("get while down", x.get(0, 2), false);
-        due("put while down", x.put(0, 2, 2), false);
-        due("remove while down", x.remove(0, 2), false);
-        due("scan while down", x.scan(0, 2, 2), false);
-        due("resend while down", x.resend(0), CellTree.NONE);
-        due("down: nothing more sent", x.messages(), 1);
-        due("down: no work", x.work(0), 0);
+    /** scan: "or b is less than a" */
+    private static void scanOfNoRange() {
+        refused("scan from 1 to 0", RefusalTest::busy, x -> x.scan(0, 1, 0));
+        refused("scan from 50 to 49", RefusalTest::busy, x -> x.scan(0, 50, 49));
+        refused("scan from 99 to 0", RefusalTest::busy, x -> x.scan(0, 99, 0));
     }
 
+    /** get, put, remove, scan: "the client is down" */
+    private static void workWhileDown() {
+        for (int c = 0; c < 2; c++) {
+            int client = c;
+            Supplier<CellTree> scene = () -> withDown(3 + client);
+            refused("get while down", scene, x -> x.get(client, 1));
+            refused("put while down", scene, x -> x.put(client, 1, 1));
+            refused("remove while down", scene, x -> x.remove(client, 1));
+            refused("scan while down", scene, x -> x.scan(client, 1, 1));
+        }
+    }
+
+    /** get, put, remove, scan: "or has work that runs" */
+    private static void workWhileWorkRuns() {
+        for (int c = 0; c < 2; c++) {
+            int client = c;
+            refused("get while work runs", RefusalTest::bothBusy, x -> x.get(client, 1));
+            refused("put while work runs", RefusalTest::bothBusy, x -> x.put(client, 1, 1));
+            refused("remove while work runs", RefusalTest::bothBusy, x -> x.remove(client, 10));
+            refused("scan while work runs", RefusalTest::bothBusy, x -> x.scan(client, 0, 99));
+        }
+    }
+
+    /** message: "NONE when there is none"; deliver, drop: "false when there is none" */
     private static void noSuchMessage() {
-        CellTree x = new CellTree();
-        due("deliver from the empty list", x.deliver(0), false);
-        due("drop from the empty list", x.drop(0), false);
-        due("message of the empty list", x.message(0), CellTree.NONE);
-        x.get(0, 1);
-        x.get(1, 1);
-        for (int i : new int[] {-1, 2, 40, Integer.MIN_VALUE, Integer.MAX_VALUE}) {
-            due("deliver " + i, x.deliver(i), false);
-            due("drop " + i, x.drop(i), false);
-            due("message " + i, x.message(i), CellTree.NONE);
+        for (int i : NO_INDEXES) {
+            none("message " + i, RefusalTest::bothBusy, x -> x.message(i));
+            refused("deliver " + i, RefusalTest::bothBusy, x -> x.deliver(i));
+            refused("drop " + i, RefusalTest::bothBusy, x -> x.drop(i));
         }
-        due("no message: none is lost", x.messages(), 2);
+        none("message of the empty list", CellTree::new, x -> x.message(0));
+        refused("deliver from the empty list", CellTree::new, x -> x.deliver(0));
+        refused("drop from the empty list", CellTree::new, x -> x.drop(0));
     }
 
-    private static void noSuchPlace() {
-        CellTree x = new CellTree();
+    private static void messageBehindTheLast() {
+        int count = bothBusy().messages();
+        due("messages under way", count, 3);
+        none("message behind the last", RefusalTest::bothBusy, x -> x.message(count));
+        refused("deliver behind the last", RefusalTest::bothBusy, x -> x.deliver(count));
+        refused("drop behind the last", RefusalTest::bothBusy, x -> x.drop(count));
+    }
+
+    /** resend: "NONE when there is no such client" */
+    private static void resendOfNoSuchClient() {
+        for (int c : NO_CLIENTS) {
+            none("resend of client " + c, RefusalTest::bothBusy, x -> x.resend(c));
+        }
+    }
+
+    /** resend: "it is down" */
+    private static void resendWhileDown() {
+        none("resend of client 0 while down", () -> withDown(3), x -> x.resend(0));
+        none("resend of client 1 while down", () -> withDown(4), x -> x.resend(1));
+    }
+
+    /** resend: "or it has no open transaction" */
+    private static void resendWithNothingOpen() {
+        none("resend of work that is done", RefusalTest::busy, x -> x.resend(0));
+        none("resend without work", CellTree::new, x -> x.resend(1));
+    }
+
+    /** crash: "false when there is none such or it is down" */
+    private static void crashRefused() {
         for (int place : NO_PLACES) {
-            due("crash " + place, x.crash(place), false);
-            due("restart " + place, x.restart(place), false);
+            refused("crash " + place, RefusalTest::bothBusy, x -> x.crash(place));
         }
-        for (int place = 0; place < 5; place++) {
-            due("restart while up " + place, x.restart(place), false);
-            due("crash of " + place, x.crash(place), true);
-            due("crash while down " + place, x.crash(place), false);
-        }
-        for (int place = 0; place < 5; place++) {
-            due("restart of " + place, x.restart(place), true);
+        for (int i = 0; i < 5; i++) {
+            int place = i;
+            refused("crash while down " + place, () -> withDown(place), x -> x.crash(place));
         }
     }
 
-    private static void noSuchNode() {
-        CellTree x = Drive.fullLeaf();
+    /** restart: "false when there is none such or it is up" */
+    private static void restartRefused() {
+        for (int place : NO_PLACES) {
+            refused("restart " + place, () -> withDown(1), x -> x.restart(place));
+        }
+        for (int i = 0; i < 5; i++) {
+            int place = i;
+            refused("restart while up " + place, RefusalTest::bothBusy, x -> x.restart(place));
+        }
+    }
+
+    /** recover: "NONE when there is no such node" */
+    private static void recoverAtNoSuchNode() {
         for (int m : NO_NODES) {
-            due("recover " + m, x.recover(m), CellTree.NONE);
-            due("remembers " + m, x.remembers(m, 1), CellTree.NONE);
-        }
-        for (int m = 0; m < 3; m++) {
-            due("recover with nothing in doubt at " + m, x.recover(m), CellTree.NONE);
+            none("recover " + m, RefusalTest::bothBusy, x -> x.recover(m));
         }
     }
 
-    private static void noSuchQuestion() {
-        CellTree x = Drive.fullLeaf();
+    /** recover: "it is down" */
+    private static void recoverWhileDown() {
+        none("recover at a node that is down", () -> withDown(0), x -> x.recover(0));
+    }
+
+    /** recover: "nothing is in doubt there" */
+    private static void recoverWithNothingInDoubt() {
+        none("recover where it is not in doubt", RefusalTest::bothBusy, x -> x.recover(1));
+        none("recover where it takes no part", RefusalTest::bothBusy, x -> x.recover(2));
+        none("recover in a new object", CellTree::new, x -> x.recover(0));
+    }
+
+    /** recover: "or a participant is down" */
+    private static void recoverWithAParticipantDown() {
+        due("recover with all up", bothBusy().recover(0) > 0, true);
+        none("recover with a participant down", () -> withDown(1), x -> x.recover(0));
+    }
+
+    /** work, about, copy: "NONE when there is no such client ..", ".. or what", ".. or address" */
+    private static void questionsAboutClients() {
+        for (int c : NO_CLIENTS) {
+            none("work of client " + c, RefusalTest::busy, x -> x.work(c));
+            none("about client " + c, RefusalTest::busy, x -> x.about(c, 4));
+            none("copy of client " + c, RefusalTest::busy, x -> x.copy(c, 0));
+        }
         for (int what : new int[] {-1, 5, Integer.MIN_VALUE, Integer.MAX_VALUE}) {
-            due("about " + what, x.about(0, what), CellTree.NONE);
+            none("about " + what, RefusalTest::busy, x -> x.about(1, what));
+        }
+        for (int address : NO_ADDRESSES) {
+            none("copy at " + address, RefusalTest::busy, x -> x.copy(0, address));
+        }
+    }
+
+    /** cell, key: "NONE when there is no such address or what"; item: "0 when there is none" */
+    private static void questionsAboutCells() {
+        for (int address : NO_ADDRESSES) {
+            none("cell at " + address, RefusalTest::busy, x -> x.cell(address, 0));
+            none("key at " + address, RefusalTest::busy, x -> x.key(address, 0));
+            due("item at " + address, busy().item(address, 0), 0);
         }
         for (int what : new int[] {-1, 6, Integer.MIN_VALUE, Integer.MAX_VALUE}) {
-            due("cell " + what, x.cell(0, what), CellTree.NONE);
-        }
-    }
-
-    private static void noSuchAddress() {
-        CellTree x = Drive.fullLeaf();
-        for (int address : NO_ADDRESSES) {
-            due("copy at " + address, x.copy(0, address), CellTree.NONE);
-            due("cell at " + address, x.cell(address, 0), CellTree.NONE);
-            due("key at " + address, x.key(address, 0), CellTree.NONE);
-            due("item at " + address, x.item(address, 0), 0);
+            none("cell " + what, RefusalTest::busy, x -> x.cell(0, what));
         }
         for (int i : NO_INDEXES) {
-            due("key " + i + " of a leaf", x.key(0, i), CellTree.NONE);
-            due("item " + i + " of a leaf", x.item(0, i), 0);
+            none("key " + i, RefusalTest::busy, x -> x.key(2, i));
+            due("item " + i, busy().item(2, i), 0);
         }
-        due("key 3 of a full leaf", x.key(0, 3), CellTree.NONE);
-        due("item 3 of a full leaf", x.item(0, 3), 0);
-        due("key of a free cell", x.key(23, 0), CellTree.NONE);
-        due("item of a free cell", x.item(23, 0), 0);
-        due("copy at the last address", x.copy(1, 23), 0);
-        due("cell at the last address", x.cell(23, 0), 0);
     }
 
-    private static void noSuchTransaction() {
-        CellTree x = Drive.fullLeaf();
-        for (int t : new int[] {0, -1, 7, 513, Integer.MIN_VALUE, Integer.MAX_VALUE}) {
-            due("remembers " + t, x.remembers(0, t), CellTree.NONE);
+    /** remembers: "NONE when there is no such node, or t was not begun" */
+    private static void questionsAboutMemory() {
+        for (int m : NO_NODES) {
+            none("remembers at " + m, RefusalTest::busy, x -> x.remembers(m, 1));
         }
-        due("remembers the last one", x.remembers(0, 6), 2);
-        due("remembers the first one", x.remembers(0, 1), 0);
+        int open = busy().about(1, 3);
+        for (int t : new int[] {0, -1, open + 1, 513, Integer.MIN_VALUE, Integer.MAX_VALUE}) {
+            none("remembers " + t, RefusalTest::busy, x -> x.remembers(0, t));
+        }
     }
 
-    /** Two objects with the same calls, but for refused ones in between: what can be seen of them is the same. */
-    private static void refusedCallsChangeNothing() {
-        CellTree plain = new CellTree();
-        CellTree teased = new CellTree();
-        for (int k = 10; k < 50; k += 10) {
-            plain.put(0, k, k);
-            teased.put(0, k, k);
-            for (int i = 0; i < 14; i++) {
-                tease(teased);
-                due("teased: deliver", teased.deliver(0), plain.deliver(0));
-                due("teased: messages", teased.messages(), plain.messages());
-                due("teased: work", teased.work(0), plain.work(0));
-            }
-        }
-        for (int address = 0; address < 4; address++) {
-            for (int what = 0; what < 6; what++) {
-                due("teased: cell", teased.cell(address, what), plain.cell(address, what));
-            }
-        }
-        due("teased: hint", teased.about(0, 4), plain.about(0, 4));
+    /** What only asks changes nothing when it is answered either. */
+    private static void questionsChangeNothing() {
+        dueUnchanged("questions", RefusalTest::bothBusy, x -> {
+            x.messages();
+            x.message(0);
+            x.work(1);
+            x.about(1, 3);
+            x.copy(0, 0);
+            x.cell(0, 2);
+            x.key(2, 0);
+            x.item(2, 0);
+            x.remembers(0, 2);
+        });
     }
 
-    private static void tease(CellTree x) {
-        x.put(2, 1, 1);
-        x.get(1, 100);
-        x.scan(1, 4, 3);
-        x.deliver(-1);
-        x.drop(x.messages());
-        x.crash(5);
-        x.restart(3);
-        x.recover(3);
-        x.resend(1);
-    }
-
-    /** What calls after the 512th answer is free, but none may throw. */
-    private static void longUseDoesNotThrow() {
+    /** "what later calls answer is free", but none may throw or fail to end. */
+    private static void afterTheLastCallNothingIsThrown() {
         CellTree x = new CellTree();
+        CellTree y = new CellTree();
         for (int i = 0; i < 6000; i++) {
             x.put(i % 2, i * 7 % 100, i);
             x.deliver(0);
@@ -221,14 +318,10 @@ public final class RefusalTest {
             x.resend(i % 2);
             x.deliver(1);
             x.remembers(0, i);
-        }
-        due("long use: a list of messages still", x.messages() <= 40, true);
-        CellTree y = new CellTree();
-        for (int i = 0; i < 600; i++) {
             y.put(i % 2, 50, i);
-            Drive.quiet(y);
-            y.remembers(0, i);
+            Drive.steps(y, 4);
+            y.crash(i % 7);
+            y.restart(i % 7);
         }
-        due("long use: work ends", y.work(0) != 1, true);
     }
 }
