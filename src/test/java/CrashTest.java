@@ -408,16 +408,17 @@ public final class CrashTest extends Cases {
 
     /** recover: "NONE when .. a participant is down": "all its participants must be up" */
     private static void recoverWithAParticipantDown() {
-        for (int down = 1; down < 3; down++) {
+        for (int down = 0; down < 3; down++) {
             CellTree x = Drive.splitOverThree();
             int t = x.about(1, 3);
             Drive.steps(x, 3);
             x.crash(down);
-            due(down + " is down: recover", x.recover(0), NONE);
-            due(down + " is down: in doubt still", x.remembers(0, t), 1);
+            int m = (down + 1) % 3;
+            due(down + " is down: recover", x.recover(m), NONE);
+            due(down + " is down: in doubt still", x.remembers(0, t) + x.remembers(1, t) + x.remembers(2, t), 3);
             due(down + " is down: locked still", x.cell(0, 2), t);
             x.restart(down);
-            due(down + " is up: recover", x.recover(0), t);
+            due(down + " is up: recover", x.recover(m), t);
         }
     }
 

@@ -153,7 +153,7 @@ final class Drive {
         return x;
     }
 
-    /** The root is locked by client 1's split, transaction 8, whose other messages are lost: who reads it goes wrong. */
+    /** The root is locked by client 1's split, transaction 8, all of whose messages are lost. */
     static CellTree lockedRoot() {
         CellTree x = splitOverTwo();
         x.deliver(0);

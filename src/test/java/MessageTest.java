@@ -8,7 +8,7 @@ public final class MessageTest extends Cases {
     public static void main(String[] args) {
         noMessages();
         codes();
-        codesOfGreatNumbers();
+        codesUpToTheLastCall();
         orderOfSending();
         messageWhereThereIsNone();
         deliverWhereThereIsNone();
@@ -59,16 +59,19 @@ public final class MessageTest extends Cases {
         due("ABORT to 2", y.message(3), 50002 + t);
     }
 
-    /** Numbers of two and three digits. */
-    private static void codesOfGreatNumbers() {
+    /** "An object is used for at most 512 calls": the 512th is answered as the first was. */
+    private static void codesUpToTheLastCall() {
         CellTree x = new CellTree();
-        for (int t = 1; t <= 120; t++) {
-            x.get(t % 2, 50);
-            int prepare = x.message(0);
+        for (int t = 1; t < 170; t++) {
+            due("get by " + t, x.get(t % 2, 50), true);
             x.deliver(0);
             due("YES of " + t, x.deliver(0), true);
-            due("PREPARE of " + t, prepare, 10000 + 10 * t);
         }
+        due("call 508", x.get(0, 50), true);
+        due("call 509", x.message(0), 11700);
+        due("call 510", x.about(0, 3), 170);
+        due("call 511", x.deliver(0), true);
+        due("call 512", x.message(0), 21700);
     }
 
     /** "MESSAGES under way are a list, in the order in which they were sent" */

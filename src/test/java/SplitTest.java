@@ -13,6 +13,7 @@ public final class SplitTest extends Cases {
         narrowLeafAtTheLowEnd();
         narrowLeafAtTheHighEnd();
         copiesGoAndFuelStays();
+        copiesBesideThePathStay();
         hintUpToTwentyThree();
         hintFromTwentyThree();
         hintFromTwentyThreeBelowTheRoot();
@@ -146,7 +147,7 @@ public final class SplitTest extends Cases {
         due("narrow: key 99 is found", x.work(1), 3);
     }
 
-    /** "When the transaction goes on, all copies at addresses of the path go, and the walk begins anew (FUEL stays)." */
+    /** "all copies at addresses of the path go, and the walk begins anew (FUEL stays)" */
     private static void copiesGoAndFuelStays() {
         CellTree x = Drive.threeLevels();
         Drive.get(x, 0, 5);
@@ -164,6 +165,27 @@ public final class SplitTest extends Cases {
         Drive.quiet(x);
         due("split: put is done", x.work(0), 2);
         due("split: fuel stays", x.about(0, 1), 10);
+    }
+
+    /** The path is address 0 alone here, as the root is full: the copy of 5, of an earlier and longer path, stays. */
+    private static void copiesBesideThePathStay() {
+        CellTree x = new CellTree();
+        Drive.putRow(x, 0, 0, 1, 9);
+        x.put(0, 9, 9);
+        for (int i = 0; i < 20 && x.cell(0, 3) < 3; i++) {
+            x.deliver(0);
+        }
+        Drive.forget(x, 0);
+        Drive.quiet(x);
+        dueItems(x, 0, 5, 6, 9, 12);
+        Drive.get(x, 1, 0);
+        due("beside: a copy of 5", x.copy(1, 5), 1);
+        Drive.put(x, 1, 50, 50);
+        due("beside: done", x.work(1), 2);
+        due("beside: 9 and 12 are taken", x.about(1, 1), 8);
+        dueItems(x, 0, 13, 14);
+        due("beside: the copy of 5 stays", x.copy(1, 5), 1);
+        due("beside: a new copy of the root", x.copy(1, 0), x.cell(0, 1));
     }
 
     /** "A NEW ADDRESS is the hint, which then grows by 1 (from 23 to 1); the left half's comes first.": to 23. */
