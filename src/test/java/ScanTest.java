@@ -26,6 +26,7 @@ public final class ScanTest extends Cases {
         checkThatDoesNotFit();
         anewWithNothingCollected();
         anewAtALaterLeaf();
+        failedAtALaterLeaf();
         failedScan();
         end();
     }
@@ -324,16 +325,22 @@ public final class ScanTest extends Cases {
         due("anew: what was found before counts no more", y.work(0), 2);
     }
 
-    /** The same as it goes wrong on its way to the second leaf, which is locked. */
-    private static void anewAtALaterLeaf() {
+    /** Client 0 has no copies and scans 7 and 8; 8 is locked by a scan of client 1 whose messages are lost. */
+    private static CellTree lockedSecondLeaf() {
         CellTree x = Drive.fourLeaves();
         Drive.scan(x, 1, 0, 35);
         x.scan(1, 20, 45);
         Drive.steps(x, 6);
         Drive.deliver(x, 10001 + 10 * x.about(1, 3));
         Drive.dropAll(x);
-        due("later leaf: 8 is locked", x.cell(8, 2), x.about(1, 3));
+        due("locked second leaf", x.cell(8, 2), x.about(1, 3));
         x.scan(0, 10, 25);
+        return x;
+    }
+
+    /** The same as it goes wrong on its way to the second leaf. */
+    private static void anewAtALaterLeaf() {
+        CellTree x = lockedSecondLeaf();
         Drive.steps(x, 6);
         due("later leaf: the first is collected", x.about(0, 2), 1);
         Drive.steps(x, 2);
@@ -342,6 +349,16 @@ public final class ScanTest extends Cases {
         due("later leaf: recover", x.recover(1), x.about(1, 3));
         Drive.quiet(x);
         due("later leaf: sum", x.about(0, 0), 30);
+    }
+
+    /** "is it 0, the work has FAILED; otherwise it begins anew": what the last try collected stays. */
+    private static void failedAtALaterLeaf() {
+        CellTree x = lockedSecondLeaf();
+        Drive.quiet(x);
+        due("failed at the second leaf", x.work(0), 4);
+        due("failed at the second leaf: fuel", x.about(0, 1), 0);
+        due("failed at the second leaf: leaves", x.about(0, 2), 1);
+        due("failed at the second leaf: sum", x.about(0, 0), 0);
     }
 
     /** "is it 0, the work has FAILED": a scan too, with no sum. */
