@@ -1,4 +1,4 @@
-/** The examples of README.md answer what stands beside them there. */
+/** Makes the calls of the examples in README.md; what stands beside them there is due. */
 public final class ReadmeTest extends Cases {
     private ReadmeTest() {
     }
